@@ -892,23 +892,25 @@ public final class PlatesSing {
       }
     }
 
-    /** What row r brings to the coefficients of the r rows ahead of it. */
+    /**
+     * What row r brings to the coefficients of the r rows ahead of it: it needs v A v, v A A v, .. and, as A is
+     * symmetric, one multiplication serves two of these.
+     */
     private void fillFactor(int r) {
       int row = MOST_CORNERS * r;
       factor[0] = 1;
       factor[1] = matrix[row + r];
       for (int i = 0; i < r; i++) vector[i] = matrix[row + i];
-      long sign = -1;
       for (int k = 2; k <= r + 1; k++) {
-        long sum = 0;
-        for (int i = 0; i < r; i++) sum += matrix[row + i] * vector[i];
-        factor[k] = sign * sum;
-        sign = -sign;
-        for (int i = 0; i < r && k <= r; i++) {
+        boolean odd = k % 2 != 0;
+        for (int i = 0; i < r && odd; i++) {
           image[i] = 0;
           for (int j = 0; j < r; j++) image[i] += matrix[MOST_CORNERS * i + j] * vector[j];
         }
-        for (int i = 0; i < r; i++) vector[i] = image[i];
+        long sum = 0;
+        for (int i = 0; i < r; i++) sum += vector[i] * (odd ? image[i] : vector[i]);
+        factor[k] = odd ? sum : -sum;
+        for (int i = 0; i < r && odd; i++) vector[i] = image[i];
       }
     }
 

@@ -135,6 +135,14 @@ public final class BlowsTest {
     DUE.is("32: from the start", x.roll(0, 1, 0), 1);
     x.put(0, 0, 2, 1);
     DUE.is("33: all do nothing", x.rolled(0, 5), 0);
+    DUE.is("35: not even a bit", x.loud(0, -1), 0);
+    x.undo();
+    x.roll(0, 3, 0);
+    DUE.is("33: one step", x.rolled(0, 1), 24);
+    DUE.is("35: of one step", x.loud(0, -1), 24);
+    x.roll(0, 3, 0);
+    DUE.is("31: what is told for a roll does nothing here", x.blow(0, 0, 1, 1), 8);
+    DUE.is("33: it is still told", x.rolled(0, 1), 24);
   }
 
   private static void writing() {
@@ -228,6 +236,11 @@ public final class BlowsTest {
     DUE.is("38: of like ones the least", x.strongest(2), 2);
     rowOf(x, 2, 2, 9, 0, 0, 0, 0, 0, 0, 0, 0, 0, 1);
     DUE.is("38: quotients are cut, so these are alike", x.strongest(2), 2);
+    x.row(2, 2, 60);
+    for (int k = 0; k < 60; k++) x.place(2, k, k < 30 ? 100 : k == 30 ? 0 : -100);
+    DUE.is("38: the longest", x.strongest(2), 60);
+    rowOf(x, 2, 2, 5);
+    DUE.is("38: one element", x.strongest(2), 2);
     int[] wave = new int[60];
     for (int k = 0; k < 60; k++) wave[k] = k % 12 < 6 ? 50 : -50;
     x.row(2, 1, 60);

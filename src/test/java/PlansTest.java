@@ -8,7 +8,7 @@ public final class PlansTest {
     Due.shape(x, "c22;pab2");
     DUE.is("20: a piece", x.plan(0, 1, 0, 3), 1);
     DUE.is("20: told", x.plan(0, 0, 1, 1), BAD);
-    DUE.is("20: another shape", x.plan(1, 0, 1, 1), BAD);
+    DUE.is("20: another shape", x.plan(1, 0, -1, 1), BAD);
     DUE.is("20: a corner", x.plan(0, 0, -1, 1), 2);
     DUE.is("20: that corner again", x.plan(0, 0, -1, 2), BAD);
     DUE.is("20: no piece", x.plan(0, 0, 2, 1), NOT);
@@ -111,6 +111,18 @@ public final class PlansTest {
     DUE.is("23: without a stroke", x.tune(3), 0);
     x.crack(0, 0, 1, 4);
     DUE.is("22: cracks are as they are", x.moved(0, 0, 1), 5);
+    DUE.is("23: a corner that would fall below 1", x.tune(3), 1);
+    x.forget();
+    x.plan(0, 0, 1, 1);
+    x.crack(0, 0, 1, 2);
+    DUE.is("22: a crack within STIFF stays", x.moved(0, 0, 2), 6);
+    x.forget();
+    x.plan(0, 0, -1, 3);
+    x.put(0, 0, 1, 3);
+    x.wish(0, 5, 35);
+    DUE.is("23: 7 / 1 would need HEAVY 1 and no weight", x.tune(0), NOT);
+    x.put(0, 0, 1, 0);
+    DUE.is("23: now it does", x.tune(1), 1);
   }
 
   /** Tells the wish anew, the three strokes with it. */
@@ -194,6 +206,29 @@ public final class PlansTest {
     x.hear(0);
     DUE.is("27: behind those heard", x.next(1, 1), 1);
     DUE.is("26: only the sound one", x.fits(1, 1, 0), 1);
+    Due.shape(x, "c111;pab4;pac3;hb;hc");
+    x.unhear();
+    x.hear(2);
+    DUE.is("26: none", x.fits(2, 1, 0), 0);
+    x.unhear();
+    x.hear(8);
+    DUE.is("26: by halves", x.fits(2, 2, 0), 2);
+    DUE.is("26: its body", x.fits(2, 2, 1), x.piece(2, 0, 1, 0));
+    x.unhear();
+    x.hear(5);
+    x.hear(1);
+    DUE.is("26: more than tones", x.fits(2, 1, 0), BAD);
+    x.unhear();
+    x.hear(3);
+    DUE.is("26: all of the first", x.fits(2, 1, 2), 4);
+    x.unhear();
+    x.hear(7);
+    DUE.is("26: the sound one", x.fits(2, 1, 1), -1);
+    x.unhear();
+    x.hear(4);
+    DUE.is("26: all of the first, or all of the second less 1", x.fits(2, 1, 0), 2);
+    DUE.is("26: the first by its body", x.fits(2, 1, 1), 2);
+    DUE.is("26: its crack", x.fits(2, 1, 2), 3);
   }
 
   public static void main(String[] args) {

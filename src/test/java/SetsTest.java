@@ -19,7 +19,7 @@ public final class SetsTest {
     DUE.is("39: a 10", x.ratio(10, 1), BAD);
     DUE.is("39: b 0", x.ratio(1, 0), BAD);
     DUE.is("39: b 10", x.ratio(1, 10), BAD);
-    for (int n = 1; n <= 6; n++) DUE.is("39: told", x.ratio(9, 1), n);
+    for (int n = 1; n <= 6; n++) DUE.is("39: told", x.ratio(9, 9), n);
     DUE.is("39: full", x.ratio(1, 1), PlatesSing.FULL);
     DUE.is("39: BAD ahead of FULL", x.ratio(0, 1), BAD);
     DUE.is("41: six", x.unratio(), 6);
@@ -84,7 +84,7 @@ public final class SetsTest {
     int[][] bad = {{0, 3, 0, 1}, {-1, 0, 0, 1}, {0, 1, 20, 1}, {0, 1, 3, 1}, {0, 1, -1, 1}, {0, 1, 0, 0}, {0, 1, 0, 10},
         {2, 0, 0, 1}, {0, 1, 120, 1}};
     for (int[] b : bad) DUE.is("42: wrong", x.join(b[0], b[1], b[2], b[3]), BAD);
-    DUE.is("42: six corners", x.join(1, 1, 0, 1), 3);
+    DUE.is("42: six corners", x.join(1, 1, 0, 9), 3);
     for (int n = 4; n < 12; n++) DUE.is("42: itself", x.join(0, 0, 1, 1), n);
     DUE.is("42: full", x.join(0, 0, 1, 1), PlatesSing.FULL);
     DUE.is("42: BAD ahead of FULL", x.join(0, 0, 1, 0), BAD);

@@ -49,7 +49,9 @@ public final class ShelvesTest {
       DUE.is("51: 0 at first", x.element(sort, 59), 0);
       DUE.is("52: place", x.place(sort, 59, v), 1);
       DUE.is("52: its lowest bits", x.element(sort, 59), cut[sort]);
-      DUE.is("52: 256 bits up", x.place(sort, 0, 1L << 32), 1);
+      DUE.is("52: 0", x.place(sort, 58, 0), 1);
+      DUE.is("52: 0 stays 0", x.element(sort, 58), 0);
+      DUE.is("52: a high bit alone", x.place(sort, 0, 1L << 32), 1);
       DUE.is("52: a boolean looks at all", x.element(sort, 0), sort == 3 ? 1L << 32 : sort == 4 ? 1 : 0);
       DUE.is("52: no place", x.place(sort, 60, 1), -13);
       DUE.is("52: no place", x.place(sort, -1, 1), -13);
@@ -81,6 +83,8 @@ public final class ShelvesTest {
     int[] other = {0, 3, 4};
     for (int k = 0; k < 3; k++) DUE.is("54: another one", x.element(1, k), other[k]);
     DUE.is("54: none", x.shift(0, 5, 1, 3, 0), 0);
+    DUE.is("54: all", x.shift(1, 0, 0, 2, 3), 3);
+    DUE.is("54: the last", x.element(0, 4), 4);
     int[][] noPlace = {{0, 0, 1, 0, 4}, {0, 3, 1, 0, 3}, {0, -1, 1, 0, 1}, {0, 0, 1, -1, 1}, {0, 6, 1, 0, 0},
         {0, 0, 1, 4, 0}, {0, 0, 1, 0, -1}, {0, 2147483647, 1, 0, 1}, {0, 0, 1, 2147483647, 2147483647}};
     for (int[] n : noPlace) DUE.is("54: no place", x.shift(n[0], n[1], n[2], n[3], n[4]), -13);

@@ -89,6 +89,35 @@ public final class TonesTest {
     DUE.is("9: six at 1 / 9", y.below(0, 19, 1), 6);
   }
 
+  /** Each of six corners tied to all others by 2: A has once - 3 p, and five times 12 q - 3 p. */
+  private static void allTied() {
+    StringBuilder text = new StringBuilder("c333333");
+    for (char a = 'a'; a <= 'f'; a++) for (char b = 'a'; b < a; b++) text.append(";p").append(a).append(b).append('2');
+    PlatesSing x = Due.with(text.toString());
+    for (int mark : new int[] {1, 11, 399, 403, 57, 999}) {
+      long once = -3 * (mark / 10);
+      long five = 12 * (mark % 10) + once;
+      long[] choose = {1, 5, 10, 10, 5, 1, 0};
+      long power = 1;
+      long before = 0;
+      for (int k = 0; k <= 6; k++) {
+        DUE.is("10: E(" + k + ") for " + mark, x.sums(0, mark, k), choose[k] * power + once * before);
+        before = choose[k] * power;
+        power *= five;
+      }
+      DUE.is("9: below " + mark, x.below(0, mark, 0), (once < 0 ? 1 : 0) + (five < 0 ? 5 : 0));
+      DUE.is("9: at " + mark, x.below(0, mark, 1), (once == 0 ? 1 : 0) + (five == 0 ? 5 : 0));
+    }
+    DUE.is("11: the highest", x.shut(0, 5, 9), 36);
+    DUE.is("12: no corner is still where five are alike", x.still(0, 0, 41), 0);
+    PlatesSing y = Due.with("c1111;pab1;sc1;sd1;hb");
+    DUE.is("12: held, more are left than before", y.still(0, 0, 11), 0);
+    PlatesSing z = Due.with("c11111;pab1;pac1;pad1;pae1");
+    DUE.is("9: a star: three alike", z.below(0, 11, 1), 3);
+    DUE.is("12: held, four are at 1: more than three", z.still(0, 0, 11), 1);
+    DUE.is("12: a tip", z.still(0, 1, 11), 0);
+  }
+
   /** A ring of four: tones 0, 2, 2, 4. */
   private static void splitting() {
     PlatesSing x = Due.with("c1111;pab1;pbc1;pcd1;pda1;hd");
@@ -97,6 +126,9 @@ public final class TonesTest {
     DUE.is("13: the same of the other one", x.split(0, 2, 9, 1), 1);
     DUE.is("13: the lowest stays 0", x.split(0, 0, 9, 9), 0);
     DUE.is("13: the highest falls", x.split(0, 3, 9, 9), 1);
+    x.put(0, 0, 0, 9);
+    DUE.is("13: the lowest falls, too", x.split(0, 0, 9, 9), 1);
+    x.undo();
     DUE.is("13: w 0", x.split(0, 0, 9, 10), PlatesSing.BAD);
     DUE.is("13: corner 4", x.split(0, 0, 9, 41), PlatesSing.BAD);
     DUE.is("13: below 0", x.split(0, 0, 9, -1), PlatesSing.BAD);
@@ -160,6 +192,7 @@ public final class TonesTest {
     oneCorner();
     aRow();
     highTones();
+    allTied();
     splitting();
     bounding();
     leading();
