@@ -44,6 +44,12 @@ public final class ActsTest {
     ranAre("49: HELD tells", x, 2, 31, 10, 20, 1, 20, 1, 30, 11);
     DUE.is("48: WEIGHTED weighs", x.act(3, 1, 7), -14);
     ranAre("49: WEIGHTED weighs", x, 40, 10, 1);
+    DUE.is("48: WEIGHTED stiffens", x.act(3, 0, 7), 7);
+    ranAre("49: WEIGHTED stiffens", x, 1);
+    DUE.is("48: WEIGHTED sounds", x.act(3, 2, 7), 7 ^ 3);
+    ranAre("49: WEIGHTED sounds", x, 11);
+    DUE.is("48: WEIGHTED tells", x.act(3, 3, 7), -14 + (1 ^ 3));
+    ranAre("49: WEIGHTED tells", x, 2, 40, 10, 1, 11);
     DUE.is("48: CRACKED stiffens", x.act(4, 0, 7), 6 ^ 3);
     ranAre("49: CRACKED stiffens", x, 50, 20, 1);
     DUE.is("48: CRACKED tells", x.act(4, 3, 7), (7 ^ 3) * 2 + (1 ^ 4));

@@ -138,6 +138,7 @@ public final class BlowsTest {
     DUE.is("35: not even a bit", x.loud(0, -1), 0);
     x.undo();
     x.roll(0, 3, 0);
+    x.roll(2, 99, 0);
     DUE.is("33: one step", x.rolled(0, 1), 24);
     DUE.is("35: of one step", x.loud(0, -1), 24);
     x.roll(0, 3, 0);

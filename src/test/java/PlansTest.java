@@ -123,6 +123,12 @@ public final class PlansTest {
     DUE.is("23: 7 / 1 would need HEAVY 1 and no weight", x.tune(0), NOT);
     x.put(0, 0, 1, 0);
     DUE.is("23: now it does", x.tune(1), 1);
+    x.forget();
+    x.plan(0, 0, -1, 3);
+    x.wish(0, 1, 99);
+    DUE.is("23: nothing becomes lighter than 1", x.tune(0), NOT);
+    DUE.is("23: closest by one stroke", x.tune(3), 1);
+    DUE.is("23: 99 less 7", x.tune(2), 92);
   }
 
   /** Tells the wish anew, the three strokes with it. */
@@ -229,6 +235,10 @@ public final class PlansTest {
     DUE.is("26: all of the first, or all of the second less 1", x.fits(2, 1, 0), 2);
     DUE.is("26: the first by its body", x.fits(2, 1, 1), 2);
     DUE.is("26: its crack", x.fits(2, 1, 2), 3);
+    Due.shape(x, "c111;pab2;pac9;hb;hc");
+    DUE.is("26: all but 4 of the second", x.fits(3, 1, 0), 1);
+    DUE.is("26: its body", x.fits(3, 1, 1), 5);
+    DUE.is("26: its crack", x.fits(3, 1, 2), 7);
   }
 
   public static void main(String[] args) {

@@ -116,6 +116,9 @@ public final class TonesTest {
     DUE.is("9: a star: three alike", z.below(0, 11, 1), 3);
     DUE.is("12: held, four are at 1: more than three", z.still(0, 0, 11), 1);
     DUE.is("12: a tip", z.still(0, 1, 11), 0);
+    PlatesSing w = Due.with("c11;sa1;sb2");
+    DUE.is("12: held, as many are left as before", w.still(0, 1, 11), 1);
+    DUE.is("12: it sounds itself", w.still(0, 0, 11), 0);
   }
 
   /** A ring of four: tones 0, 2, 2, 4. */

@@ -14,9 +14,9 @@ public final class UndoTest {
     DUE.is("46: one shape", x.digest(), digestOf(1, 4, 0, 0, 2, 0, 5, 1, 0, 1, 3, 0));
     x.crack(0, 0, 1, 2);
     DUE.is("46: a crack", x.digest(), digestOf(1, 4, 0, 0, 2, 0, 5, 1, 0, 1, 3, 2));
-    Due.shape(x, "c777;pca8;pab9");
+    Due.shape(x, "c777;pca8;pcb9");
     DUE.is("46: two shapes", x.digest(), digestOf(1, 4, 0, 0, 2, 0, 5, 1, 0, 1, 3, 2,
-        7, 0, 0, 0, 7, 0, 0, 0, 7, 0, 0, 0, 0, 2, 8, 0, 0, 1, 9, 0));
+        7, 0, 0, 0, 7, 0, 0, 0, 7, 0, 0, 0, 0, 2, 8, 0, 1, 2, 9, 0));
   }
 
   private static void backAndForth() {
