@@ -391,7 +391,7 @@ public final class PlatesSing {
   }
 
   public int agree(int shapes, int n, int d, int what) {
-    if (shapes < 0 || !within(n, 2, Ratios.MOST_IN_ORDER)) return BAD;
+    if (!within(n, 2, Ratios.MOST_IN_ORDER) || shapes >> 4 * n != 0) return BAD;
     if (!within(d, 0, 9999) || !within(what, 0, 1)) return BAD;
     for (int k = 0; k < n; k++) {
       Shape s = shapeAt(shapes >> 4 * k & 15);

@@ -51,11 +51,18 @@ public final class SetsTest {
     int[][] bad = {{0x10, 1, 0, 0}, {0x10, 8, 0, 0}, {0x10, 2, -1, 0}, {0x10, 2, 10000, 0}, {0x10, 2, 0, 2},
         {0x10, 2, 0, -1}, {0x50, 2, 0, 0}, {0x40, 2, 0, 0}, {0x04, 2, 0, 1}, {0xf0, 2, 0, 0}, {-1, 2, 0, 0}};
     for (int[] b : bad) DUE.is("40: wrong", x.agree(b[0], b[1], b[2], b[3]), BAD);
+    int[][] tooLong = {{0x210, 2}, {0x100, 2}, {0x10000010, 2}, {0x3210, 3}, {0x1210, 2}, {0x10000, 4}, {0x40000010, 7},
+        {0x10000000, 7}, {0x7fffffff, 7}, {-2147483648, 7}, {-2147483632, 2}, {0xf0000010, 2}};
+    for (int[] b : tooLong) DUE.is("40: more digits than n", x.agree(b[0], b[1], 0, 0), BAD);
+    DUE.is("40: more digits than n, which to leave out", x.agree(0x210, 2, 0, 1), BAD);
+    DUE.is("40: fewer digits than n: the first shape is meant", x.agree(1, 3, 9999, 0), 2);
     DUE.is("40: d 9999", x.agree(0x01, 2, 9999, 0), 1);
     for (int n = 4; n <= 6; n++) x.ratio(1, 1);
     DUE.is("40: seven shapes", x.agree(0x3333210, 7, 0, 0), 6);
     DUE.is("40: seven shapes", x.agree(0x3033210, 7, 0, 1), 32);
+    DUE.is("40: eight digits, n 7", x.agree(0x13333210, 7, 0, 0), BAD);
     x.unratio();
+    DUE.is("40: more digits than n, ahead of STATE", x.agree(0x210, 2, 0, 0), BAD);
     DUE.is("40: BAD ahead of STATE", x.agree(0x50, 2, 0, 0), BAD);
     DUE.is("40: none told", x.agree(0x10, 2, 0, 0), STATE);
   }
@@ -84,6 +91,7 @@ public final class SetsTest {
     int[][] bad = {{0, 3, 0, 1}, {-1, 0, 0, 1}, {0, 1, 20, 1}, {0, 1, 3, 1}, {0, 1, -1, 1}, {0, 1, 0, 0}, {0, 1, 0, 10},
         {2, 0, 0, 1}, {0, 1, 120, 1}};
     for (int[] b : bad) DUE.is("42: wrong", x.join(b[0], b[1], b[2], b[3]), BAD);
+    DUE.is("42: three digits", x.join(0, 1, 100, 1), BAD);
     DUE.is("42: six corners", x.join(1, 1, 0, 9), 3);
     for (int n = 4; n < 12; n++) DUE.is("42: itself", x.join(0, 0, 1, 1), n);
     DUE.is("42: full", x.join(0, 0, 1, 1), PlatesSing.FULL);

@@ -863,7 +863,7 @@ final class SlowPlates {
   }
 
   int agree(int shapes, int n, int d, int what) {
-    need(shapes >= 0 && n >= 2 && n <= 7 && d >= 0 && d <= 9999 && (what == 0 || what == 1));
+    need(n >= 2 && n <= 7 && shapes >= 0 && shapes < Math.pow(16, n) && d >= 0 && d <= 9999 && (what == 0 || what == 1));
     List<Integer> tones = new ArrayList<>();
     for (int k = 0, rest = shapes; k < n; k++, rest /= 16) {
       Plate p = plate(rest % 16);

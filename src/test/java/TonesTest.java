@@ -134,6 +134,7 @@ public final class TonesTest {
     x.undo();
     DUE.is("13: w 0", x.split(0, 0, 9, 10), PlatesSing.BAD);
     DUE.is("13: corner 4", x.split(0, 0, 9, 41), PlatesSing.BAD);
+    DUE.is("13: three digits", x.split(0, 0, 9, 101), PlatesSing.BAD);
     DUE.is("13: below 0", x.split(0, 0, 9, -1), PlatesSing.BAD);
     DUE.is("13: tone 4", x.split(0, 4, 9, 1), PlatesSing.BAD);
     DUE.is("13: q 0", x.split(0, 0, 0, 1), PlatesSing.BAD);
