@@ -92,6 +92,22 @@ public final class EdgesOfBlowsTest {
     DUE.is("31: the greatest size of any X", Math.max(y.loud(0, -1), y.loud(1, -1)), loudest);
   }
 
+  // "An EAR (0 .. 3 ..) keeps X of its CORNER behind each step: the latest 200"
+  private static void fourEarsOf200() {
+    PlatesSing x = Due.with("c111111");
+    for (int ear = 0; ear < 4; ear++) x.ear(ear, 5 - ear);
+    for (int struck = 2; struck <= 5; struck++) {
+      x.blow(0, struck, struck, 200);
+      for (int ear = 0; ear < 4; ear++) {
+        boolean there = 5 - ear == struck;
+        DUE.is("34: EAR " + ear + ", the first", x.heard(ear, 1), there ? 8 * struck : 0);
+        DUE.is("34: EAR " + ear + ", the last of 200", x.heard(ear, 200), there ? 1600 * struck : 0);
+        DUE.is("34: EAR " + ear + ", no more", x.heard(ear, 201), VOID);
+        DUE.is("35: EAR " + ear, x.loud(ear, -1), there ? 1600 * struck : 0);
+      }
+    }
+  }
+
   // "U(i) is less by (PAD X(i) + .., / (HEAVY + WEIGHT, 9 at most)) / 8, each quotient cut toward 0": on both sides of 0
   private static void cutTowardZero() {
     String[] texts = {"c1;sa1", "c7;sa9", "c99;pab9;sa1;wb9", "c3217;pab1;pbc2;pcd3;pda4;hd;sa5", "c9;sa9;wa9", "c5;wa3;sa7",
@@ -448,6 +464,7 @@ public final class EdgesOfBlowsTest {
     ears();
     earsWhereNoCornerIs();
     blows();
+    fourEarsOf200();
     cutTowardZero();
     heldStay();
     heard();

@@ -387,6 +387,99 @@ public final class EdgesOfPlansTest {
     heard("c111;pab9;sc1", 0, 9).answers("27: the only one left", 2, "next", 0, 9);
   }
 
+  // "NEXT BLOW: the TONE whose SHUT parts those that FIT told first k TONES best: the one with the least greatest number of alike ones; of like ones the least."
+  private static void nextByCracking() {
+    String[] texts = {"c1111;pad9;pbd4;sc2;hd", "c1111;sa9;pad9;pbd9;pcd9;hd;sb9;sc9", "c123;pab4;pbc5;sa2", "c111;pab9;pbc1;pca2",
+        "c9876;pab1;pbc9;pcd3;sd4", "c111111;pab2;pcd2;pef2;sa1;sc5;se9", "c22222;pab1;pac2;pad3;pae4;hb", "c1111;pab9;pcd9;sa9;sb9"};
+    for (String text : texts) {
+      for (int q = 1; q <= 9; q += 2) {
+        PlatesSing x = Due.with(text);
+        int tones = x.of(0, 2);
+        for (int heard = 0; heard <= tones; heard++) {
+          byCracking(text, x, q, heard);
+          if (heard < tones) x.hear(new PlatesSingWithCrack(text, heard % 3).shut(heard, q));
+        }
+      }
+    }
+  }
+
+  /** A shape with the first piece cracked by so much, and what its tones are. */
+  private static final class PlatesSingWithCrack {
+    private final PlatesSing x;
+
+    PlatesSingWithCrack(String text, int crack) {
+      x = Due.with(text);
+      for (int b = 1; b < 6 && crack > 0; b++) if (x.crack(0, 0, b, crack) >= 0) break;
+    }
+
+    int shut(int i, int q) {
+      return x.shut(0, i, q);
+    }
+  }
+
+  /** Cracks every piece of a twin by call, one at a time, and counts what fits. */
+  private static void byCracking(String text, PlatesSing x, int q, int heard) {
+    PlatesSing twin = Due.with(text);
+    int tones = x.of(0, 2);
+    int[] told = new int[heard];
+    for (int k = 0; k < heard; k++) told[k] = new PlatesSingWithCrack(text, k % 3).shut(k, q);
+    int[][] alike = new int[tones][100];
+    int number = 0, first = NOT, crack = NOT;
+    for (int body = -1; body < x.of(0, 1); body++) {
+      int[] ends = ends(twin, body);
+      int stiff = body < 0 ? 0 : twin.piece(0, ends[0], ends[1], 1);
+      for (int c = body < 0 ? 0 : 1; c <= stiff; c++) {
+        if (body >= 0) twin.crack(0, ends[0], ends[1], c);
+        boolean fits = true;
+        for (int k = 0; k < heard; k++) fits &= twin.shut(0, k, q) == told[k];
+        if (!fits) continue;
+        if (number == 0) first = body;
+        if (number == 0) crack = c;
+        number++;
+        for (int i = heard; i < tones; i++) alike[i][twin.shut(0, i, q)]++;
+      }
+      if (body >= 0) twin.crack(0, ends[0], ends[1], 0);
+    }
+    int best = NOT, least = Integer.MAX_VALUE;
+    for (int i = heard; i < tones && number > 0; i++) {
+      int greatest = java.util.Arrays.stream(alike[i]).max().getAsInt();
+      if (greatest < least) best = i;
+      least = Math.min(least, greatest);
+    }
+    String what = text + " by " + q + ", " + heard + " heard";
+    DUE.is("26: how many, " + what, x.fits(0, q, 0), number);
+    DUE.is("26: PIECE, " + what, x.fits(0, q, 1), first);
+    DUE.is("26: crack, " + what, x.fits(0, q, 2), crack);
+    DUE.is("27: " + what, x.next(0, q), best);
+  }
+
+  private static int[] ends(PlatesSing x, int body) {
+    for (int a = 0; a < 6; a++) for (int b = a + 1; b < 6; b++) if (body >= 0 && x.piece(0, a, b, 0) == body) return new int[] {a, b};
+    return null;
+  }
+
+  /** The most PIECES that a SHAPE has. */
+  private static void fifteenPieces() {
+    StringBuilder text = new StringBuilder("c123456");
+    int all = 0;
+    for (char a = 'a'; a <= 'f'; a++) {
+      for (char b = 'a'; b < a; b++) {
+        int stiff = 1 + (a + b) % 9;
+        text.append(";p").append(a).append(b).append(stiff);
+        all += stiff;
+      }
+    }
+    Edges e = heard(text.toString());
+    fit("15 PIECES", e, 9, all + 1, -1, 0, e.make().next(0, 9));
+    PlatesSing x = e.make();
+    DUE.is("20: the last PIECE", x.plan(0, 4, 5, 3), 1);
+    DUE.is("5: the last PIECE", x.piece(0, 4, 5, 0), 15);
+    int[] moved = new int[6];
+    for (int i = 0; i < 6; i++) moved[i] = x.moved(0, i, 2);
+    x.stroke(0, 5, 4);
+    for (int i = 0; i < 6; i++) DUE.is("22: the last PIECE is stroked, TONE " + i, moved[i], x.shut(0, i, 2));
+  }
+
   public static void main(String[] args) {
     strokesForTheList();
     wishes();
@@ -400,6 +493,8 @@ public final class EdgesOfPlansTest {
     hear();
     fits();
     next();
+    nextByCracking();
+    fifteenPieces();
     DUE.finish();
   }
 }

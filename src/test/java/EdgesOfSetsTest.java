@@ -45,6 +45,8 @@ public final class EdgesOfSetsTest {
   private static void agreeArguments() {
     Edges six = scaleWith(6);
     six.bounds("40", BAD, "agree", new long[] {0x10, 2, 0, 0}, 1, 2, 7);
+    six.bounds("40: the first SHAPE alone", BAD, "agree", new long[] {0, 2, 0, 0}, 1, 2, 7);
+    six.bounds("40: the first SHAPE alone", BAD, "agree", new long[] {0, 2, 0, 1}, 1, 2, 7);
     six.bounds("40: d 0 .. 9999", BAD, "agree", new long[] {0x10, 2, 0, 0}, 2, 0, 9999);
     six.bounds("40", BAD, "agree", new long[] {0x10, 2, 0, 0}, 3, 0, 1);
     for (int n = 2; n <= 7; n++) {
@@ -179,6 +181,26 @@ public final class EdgesOfSetsTest {
     for (int k = 0; k < bodies; k++) x.body(0);
   }
 
+  // what a text or a JOINED one was refused for leaves nothing behind
+  private static void afterFaults() {
+    PlatesSing x = Due.with("c12;pab3");
+    Due.shape(x, "c4;sa5");
+    DUE.is("3: a fault", Due.shape(x, "c987;pab4;pbc5;sa6;wb7;hc;x"), -126);
+    DUE.is("42: JOINED behind a fault", x.join(0, 1, 10, 6), 2);
+    int[] due = {3, 2, 3};
+    for (int what = 0; what <= 2; what++) DUE.is("42: behind a fault, " + what, x.of(2, what), due[what]);
+    int[] heavy = {1, 2, 4}, pad = {0, 0, 5};
+    for (int c = 0; c < 3; c++) {
+      DUE.is("42: HEAVY behind a fault", x.of(2, 10 + c), heavy[c]);
+      DUE.is("42: PAD behind a fault", x.of(2, 20 + c), pad[c]);
+      DUE.is("42: WEIGHT behind a fault", x.of(2, 30 + c), 0);
+      DUE.is("42: HELD behind a fault", x.of(2, 40 + c), 0);
+    }
+    DUE.is("42: its last PIECE", x.piece(2, 1, 2, 1), 6);
+    DUE.is("43: a SHAPE of a text behind a JOINED one", Due.shape(x, "c1"), 3);
+    DUE.is("43: was not JOINED", x.law(3, 11), NOT);
+  }
+
   // "CORNERS of the one, then of the other one"; "(PADS, WEIGHTS, HOLDS, cracks as they are.)"
   private static void joined() {
     PlatesSing x = Due.with("c91;pab9;sa9;wb9;ha");
@@ -230,6 +252,19 @@ public final class EdgesOfSetsTest {
       DUE.is("43: the JOINED one", x.below(2, 51, 0), n[2]);
       DUE.is("43: " + n[0] + " and " + n[1] + " are " + n[2], x.law(2, 51), n[3]);
     }
+    // without TONES of the one and the other the law ends where the JOINED one has TONES: above 9, above 9 / 2
+    for (int heavy = 1; heavy <= 2; heavy++) {
+      PlatesSing x = Due.with("c1;ha");
+      x.join(0, 0, 0, 9);
+      x.put(1, 0, 2, 0);
+      if (heavy == 2) x.put(1, 0, 1, 1);
+      int[][] marks = {{91, 92}, {101, 102}, {271, 92}, {273, 103}, {283, 102}, {819, 405}, {829, 419}};
+      for (int[] m : marks) {
+        int mark = m[heavy - 1];
+        boolean above = mark / 10 * heavy > 9 * (mark % 10);
+        DUE.is("43: HEAVY " + heavy + " for " + mark, x.law(1, mark), above ? 0 : 1);
+      }
+    }
     PlatesSing y = Due.with("c1;sa1");
     y.join(0, 0, 0, 1);
     y.join(1, 0, 10, 1);
@@ -248,6 +283,7 @@ public final class EdgesOfSetsTest {
     doubts();
     leftOut();
     join();
+    afterFaults();
     joined();
     law();
     DUE.finish();

@@ -162,6 +162,21 @@ public final class EdgesOfShapesTest {
     DUE.is("3: nothing of it became a shape", y.count(0), 0);
     DUE.is("3: nor a body", y.count(1), 0);
     DUE.is("3: the next text begins anew", Due.shape(y, "c12;pab1"), 0);
+    String[] faults = {"c123456;", "c1234;pab9;pcd9;x", "c12;sa1;sb1;x", "c12;ha;hb;x", "c12;wa9;wb9;x", "x", ""};
+    for (String fault : faults) {
+      PlatesSing x = new PlatesSing();
+      Due.shape(x, fault);
+      DUE.is("3: no CORNERS, behind " + fault, Due.shape(x, "c"), -101);
+      Due.shape(x, fault);
+      DUE.is("3: a CORNER that was there in " + fault, Due.shape(x, "c1;sb1"), -104);
+      Due.shape(x, fault);
+      DUE.is("3: all anew behind " + fault, Due.shape(x, "c12;pab3;sa4;wb5"), 0);
+      int[] due = {2, 1, 2, 1, 2, 4, 0, 0, 5, 0, 0};
+      int[] what = {0, 1, 2, 10, 11, 20, 21, 30, 31, 40, 41};
+      for (int k = 0; k < what.length; k++) DUE.is("4: " + what[k] + " behind " + fault, x.of(0, what[k]), due[k]);
+      DUE.is("5: no crack behind " + fault, x.piece(0, 0, 1, 2), 0);
+      DUE.is("5: STIFF behind " + fault, x.piece(0, 1, 0, 1), 3);
+    }
   }
 
   // "each HEAVY 1 .. 9, with a PAD 0 .. 9, a WEIGHT 0 .. 9, HELD or not", "each STIFF 1 .. 9"

@@ -170,6 +170,25 @@ public final class EdgesOfTonesTest {
     DUE.is("12: AT 0, though it is 1 with it HELD", z.still(0, 0, 11), 0);
     PlatesSing w = Due.with("c1");
     DUE.is("12: with it HELD no TONE is left", w.still(0, 0, 1), 0);
+    // two corners apart, one of each TONE: at every MARK the one that has not that TONE is STILL
+    int[][] tones = {{9, 2, 92}, {9, 4, 94}, {9, 4, 188}, {1, 9, 19}, {5, 3, 53}, {8, 1, 648}, {9, 1, 819}, {9, 1, 91}, {7, 6, 76}};
+    for (int[] t : tones) {
+      PlatesSing v = Due.with("c" + t[1] + "1;sa" + t[0]);
+      for (int mark : new int[] {t[2], t[2] + 10, t[2] - 10}) {
+        boolean at = mark == t[2];
+        if (mark < 10) continue;
+        DUE.is("12: the one whose TONE it is, " + mark, v.still(0, 0, mark), 0);
+        DUE.is("12: the other one, " + mark, v.still(0, 1, mark), at ? 1 : 0);
+      }
+    }
+    PlatesSing u = oneTone(54, 1);
+    u.put(0, 5, 2, 0);
+    u.put(0, 5, 0, 1);
+    u.crack(0, 0, 5, 9);
+    DUE.is("12: 45 / 1, the one whose TONE it is", u.still(0, 0, 451), 0);
+    DUE.is("12: 45 / 1, the other one", u.still(0, 5, 451), 1);
+    DUE.is("12: 90 / 2, the other one", u.still(0, 5, 902), 1);
+    DUE.is("12: 1 / 1, the other way", u.still(0, 0, 11), 1);
   }
 
   // Part 2: "SPLIT of a TONE by WEIGHT w (1 .. 9) at a CORNER without one: how many of the TONES i with the same SHUT by q as TONE i have another one with it."

@@ -127,6 +127,7 @@ public final class EdgesOfUndoTest {
       }
       DUE.is("45: no more of " + acts, x.redo(), STATE);
     }
+    fortyOfSeveralShapes();
     Edges full = new Edges(DUE, x -> {
       Due.shape(x, "c111");
       for (int k = 0; k < 41; k++) act(x, k);
@@ -145,6 +146,33 @@ public final class EdgesOfUndoTest {
     act(z, 8);
     DUE.is("56: still 40", z.count(3), 40);
     DUE.is("45: none", z.redo(), STATE);
+  }
+
+  /** The oldest goes with all that was known of it: what it changed, and of which SHAPE. */
+  private static void fortyOfSeveralShapes() {
+    PlatesSing x = new PlatesSing();
+    for (int n = 0; n < 3; n++) Due.shape(x, "c999;pab9;pbc9");
+    int[] digests = new int[48];
+    digests[0] = x.digest();
+    for (int k = 0; k < 47; k++) {
+      int shape = k * k % 3;
+      if (k % 7 == 0) x.stroke((shape + 1) % 3, 0, 1);
+      else if (k % 7 == 1) x.stroke(shape, 2, -1);
+      else if (k % 7 == 2) x.crack((shape + 2) % 3, 1, 2, 1 + k % 9);
+      else if (k % 7 == 3) x.put(shape, 1, 2, 1 - x.of(shape, 41));
+      else x.put((shape + k) % 3, k % 2, k % 7 - 4 == 0 ? 1 : 0, 1 + k % 9);
+      digests[k + 1] = x.digest();
+      DUE.is("56: acts on several SHAPES", x.count(3), Math.min(40, k + 1));
+    }
+    for (int k = 46; k >= 7; k--) {
+      DUE.is("44: several SHAPES", x.undo(), k - 7);
+      DUE.is("44: several SHAPES, what it was", x.digest(), digests[k]);
+    }
+    DUE.is("44: seven went", x.undo(), STATE);
+    for (int k = 8; k <= 47; k++) {
+      DUE.is("45: several SHAPES", x.redo(), 47 - k);
+      DUE.is("45: several SHAPES, what it was", x.digest(), digests[k]);
+    }
   }
 
   // Promise 46, part 7: "from 7, for all SHAPES by numbers, for all CORNERS HEAVY, PAD, WEIGHT, HELD (1, 0), for all PIECES in order of numbers their CORNERS (lesser, greater), STIFF, crack: times 31, and that (wrapping)"
