@@ -62,9 +62,11 @@ final class Snapshot {
     head("plan");
     for (int what = 0; what <= 3; what++) note(x.tune(what));
     for (int k = 0; k < 6; k++) note(x.moved(k, 0, 9));
-    note(x.wish(0, 5, 50));
-    note(x.wish(0, 7, 50));
+    // wishes that take as many strokes as the list has
+    note(x.wish(2, 9, 0));
+    note(x.wish(2, 8, 0));
     note(x.tune(2));
+    note(x.tune(3));
     note(x.forget());
     head("heard");
     note(x.fits(0, 9, 0));
