@@ -467,7 +467,7 @@ public final class PlatesSing {
   public int act(int body, int act, int x) {
     parts.ran = 0;
     if (!isBody(body) || !within(act, 0, 3)) return 0;
-    return parts.run(body, parts.kind[body], act, x, 0);
+    return parts.perform(body, act, x);
   }
 
   public int trace(int i) {
@@ -1397,8 +1397,12 @@ public final class PlatesSing {
       return within(n - s.first, 0, s.pieces - 1) ? s.stiff[n - s.first] : 0;
     }
 
+    int perform(int n, int act, int x) {
+      return run(n, kind[n], act, x, 0);
+    }
+
     /** Runs the act of body n that its KIND from, or the next one above, has. */
-    int run(int n, int from, int act, int x, int open) {
+    private int run(int n, int from, int act, int x, int open) {
       int k = from;
       for (int up = 0; up < KIND_ABOVE.length && k > 0 && ACTS[4 * k + act] == 0; up++) k = KIND_ABOVE[k];
       if (k < 0 || open > MOST_OPEN) return 0;

@@ -39,6 +39,7 @@ public final class LanguageTest {
     hasNo(code, "8, 9: loops without an end", "while\\s*\\(\\s*true|for\\s*\\([^;)]*;\\s*;");
     hasNo(code, "9: every loop here counts", "\\bwhile\\b");
     methodsAreShort(text);
+    recursionIsPrivate(code);
     DUE.finish();
   }
 
@@ -56,6 +57,17 @@ public final class LanguageTest {
         DUE.is("11: a method's lines from " + (start + 1), k - start + 1 <= 60 ? 1 : 0, 1);
         start = -1;
       }
+    }
+  }
+
+  /** Rule 8 speaks of private methods that call themselves. */
+  private static void recursionIsPrivate(String code) {
+    Matcher m = Pattern.compile("(?m)^( +)([\\w\\[\\] ]+ (\\w+)\\([^;{}]*\\)) \\{$").matcher(code);
+    while (m.find()) {
+      if (m.group(2).matches("(if|for|switch|while|else)\\b.*")) continue;
+      int end = code.indexOf("\n" + m.group(1) + "}", m.end());
+      boolean callsItself = Pattern.compile("(?<![.\\w])" + m.group(3) + "\\(").matcher(code.substring(m.end(), end)).find();
+      DUE.is("8: " + m.group(2), callsItself && !m.group(2).startsWith("private ") ? 1 : 0, 0);
     }
   }
 }
